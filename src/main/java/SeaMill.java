@@ -332,7 +332,7 @@ public final class SeaMill {
         int dustPercent;
         int price;
 
-        void copyFrom(Kind other) {
+        void takeFrom(Kind other) {
             hardness = other.hardness;
             dustPercent = other.dustPercent;
             price = other.price;
@@ -344,7 +344,7 @@ public final class SeaMill {
         /** How many sacks have come on the stones. */
         int turns;
 
-        void copyFrom(Farmer other) {
+        void takeFrom(Farmer other) {
             purse = other.purse;
             turns = other.turns;
         }
@@ -369,7 +369,7 @@ public final class SeaMill {
         int fallen;
         int fetched;
 
-        void copyFrom(Sack other) {
+        void takeFrom(Sack other) {
             farmer = other.farmer;
             kind = other.kind;
             hardness = other.hardness;
@@ -407,7 +407,7 @@ public final class SeaMill {
             fetched = 0;
         }
 
-        void grind(int more) {
+        void addGround(int more) {
             ground += more;
             toll = ground * tollPercent / 100;
             dust = (ground - toll) * dustPercent / 100;
@@ -527,13 +527,13 @@ public final class SeaMill {
             farmerCount = other.farmerCount;
             sackCount = other.sackCount;
             for (int i = 0; i < kindCount; i++) {
-                kinds[i].copyFrom(other.kinds[i]);
+                kinds[i].takeFrom(other.kinds[i]);
             }
             for (int i = 0; i < farmerCount; i++) {
-                farmers[i].copyFrom(other.farmers[i]);
+                farmers[i].takeFrom(other.farmers[i]);
             }
             for (int i = 0; i < sackCount; i++) {
-                sacks[i].copyFrom(other.sacks[i]);
+                sacks[i].takeFrom(other.sacks[i]);
             }
         }
 
@@ -1014,9 +1014,8 @@ public final class SeaMill {
         }
 
         private void grindSack(Sack sack, int force) {
-            int pounds = Math.max(quotient(force, sack.hardness), 1);
-            pounds = Math.min(pounds, sack.grain());
-            sack.grind(pounds);
+            int pounds = Math.min(Math.max(quotient(force, sack.hardness), 1), sack.grain());
+            sack.addGround(pounds);
             ground += pounds;
             if (sack.stage == GROUND) {
                 sackOnStones = NONE;
