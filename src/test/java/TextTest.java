@@ -13,6 +13,7 @@ public final class TextTest {
         faultArguments();
         play();
         playRefused();
+        nothingIsLeftOver();
         longestText();
         Check.end("TextTest");
     }
@@ -234,6 +235,36 @@ public final class TextTest {
         mill.undo();
         Check.due("the latest change was pledge", 0, mill.count(6));
         Check.due("no change by play", 3, mill.count(9));
+    }
+
+    /** A sack that is brought by a text has nothing of an undone one of its number, that was only foretold or tried. */
+    private static void nothingIsLeftOver() {
+        String[] tried = {"f0;", "p0,9;", "p0,9;r0;f0;", ""};
+        for (String text : tried) {
+            SeaMill mill = Check.fastMill(100);
+            mill.set(10, 1);
+            mill.kind(1, 20, 100);
+            mill.bring(0, 1, 50);
+            mill.pass(1);
+            mill.pledge(0, 9);
+            mill.bestGate(200);
+            mill.undo();
+            if (!text.isEmpty()) {
+                Check.type(mill, text);
+                Check.due("fault of " + text, Check.NOT_FOUND, mill.fault(0));
+                mill.clearText();
+            }
+            mill.undo();
+            mill.undo();
+            Check.due("no sack", 0, mill.count(2));
+            Check.type(mill, "b0,1,20;");
+            Check.due("play()", 1, mill.play());
+            int[] its = {0, 1, 20, 0, 20, 0, 0, 0, 0, 0, 0, 0};
+            for (int what = 0; what <= 11; what++) {
+                Check.due("after " + text + ": sackOf(0, " + what + ")", its[what], mill.sackOf(0, what));
+            }
+            Check.due("no pledge", 0, mill.count(6));
+        }
     }
 
     private static void longestText() {
