@@ -1,21 +1,50 @@
+import java.util.ArrayList;
+import java.util.List;
+
 /** What the tests share: the comparing of answers, and mills that are easy to reckon with. */
 final class Check {
+    /** A sentence, or a part of one, of the document, and the heading that it stands under. */
+    record Quote(String heading, String words) {
+    }
+
     static final int INVALID = -1000001;
     static final int NOT_POSSIBLE = -1000002;
     static final int LIMIT = -1000003;
     static final int NOT_FOUND = -1000004;
 
+    private static final List<Quote> QUOTES = new ArrayList<>();
     private static int looked = 0;
     private static int wrong = 0;
 
     private Check() {
     }
 
+    /** Names the sentence of the document that the next answers are due by. */
+    static void sentence(String heading, String words) {
+        QUOTES.add(new Quote(heading, words));
+    }
+
+    /** Hands out all sentences that were named, and forgets them. */
+    static List<Quote> takeQuotes() {
+        List<Quote> quotes = List.copyOf(QUOTES);
+        QUOTES.clear();
+        return quotes;
+    }
+
     static void due(String call, long want, long got) {
         looked++;
         if (got != want) {
-            wrong++;
-            System.out.println(call + " answered " + got + ", due is " + want);
+            fail(call + " answered " + got + ", due is " + want);
+        }
+    }
+
+    /** Counts something as wrong, and tells it with the sentence that was named last. */
+    static void fail(String what) {
+        wrong++;
+        System.out.println(what);
+        if (!QUOTES.isEmpty()) {
+            Quote quote = QUOTES.get(QUOTES.size() - 1);
+            System.out.println("    by " + quote.heading() + ": \"" + quote.words() + "\"");
         }
     }
 
