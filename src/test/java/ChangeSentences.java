@@ -118,8 +118,10 @@ final class ChangeSentences {
         Check.due("what was cleared after the change does not come again", 0, mill.count(10));
         Check.due("the low water comes again", 20, mill.count(21));
         // everything else, whatever the change is that comes after it
-        Twins.Maker[] makers = {Mills::busy, ChangeSentences::busyWithOrders, Mills::full, ChangeSentences::secondPledges};
+        Twins.Maker[] makers = {Mills::busy, ChangeSentences::busyWithOrders, Mills::full, ChangeSentences::secondPledges,
+            Mills::tidal, Mills::byKinds};
         for (Twins.Maker maker : makers) {
+            Twins.changes("pass(4)", maker.make().count(7) + 4, maker, its -> its.pass(4));
             Twins.changes("pass(200)", maker.make().count(7) + 200, maker, its -> its.pass(200));
             Twins.changes("earn(0, 1)", maker.make().farmerOf(0, 0) + 1, maker, its -> its.earn(0, 1));
         }

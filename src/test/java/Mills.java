@@ -40,6 +40,43 @@ final class Mills {
         return mill;
     }
 
+    /** At time 60 with a pond that fills and leaks, a gate that takes water, and a sack on the stones. */
+    static SeaMill tidal() {
+        SeaMill mill = new SeaMill();
+        mill.kind(2, 10, 100);
+        mill.kind(5, 5, 30);
+        mill.farmer();
+        mill.farmer();
+        for (int sack = 0; sack < 6; sack++) {
+            mill.bring(sack % 2, sack / 2 % 2, 200 - sack);
+        }
+        mill.set(7, 50);
+        mill.set(12, 2);
+        mill.gate(2);
+        mill.pass(60);
+        return mill;
+    }
+
+    /**
+     * At time 2 by the rule of kinds: a sack of kind 0, the hardest, is on the stones, and after it sack 3 of this kind,
+     * 2 and 4 of kind 1 and 1 of kind 2 come on them.
+     */
+    static SeaMill byKinds() {
+        SeaMill mill = Check.flatMill(100);
+        mill.farmer();
+        mill.kind(9, 0, 1);
+        mill.kind(1, 0, 1);
+        mill.kind(5, 0, 1);
+        int[] kinds = {0, 2, 1, 0, 1};
+        for (int kind : kinds) {
+            mill.bring(0, kind, 50);
+        }
+        mill.gate(3);
+        mill.pass(1);
+        mill.set(12, 3);
+        return mill;
+    }
+
     /** 6 kinds, 8 farmers and 24 sacks, all waiting; sack n has n + 1 pounds. */
     static SeaMill full() {
         SeaMill mill = new SeaMill();

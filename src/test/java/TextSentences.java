@@ -26,6 +26,7 @@ final class TextSentences {
         clearText();
         fault();
         play();
+        sackBroughtByPlay();
         playOfAFault();
         playAsOneChange();
     }
@@ -345,6 +346,52 @@ final class TextSentences {
         Twins.changes("play() of nothing", 0, SeaMill::new, SeaMill::play);
         Twins.changes("play() of one", 1, () -> mill("f2;"), SeaMill::play);
         Twins.changes("play() of 20", 20, Mills::fullText, SeaMill::play);
+    }
+
+    /** A sack that a text brings is like any other, also if one of its number was undone, and what it came to foretold. */
+    private static void sackBroughtByPlay() {
+        Check.sentence("Promise 32: play", "Does all orders of the text");
+        String[] before = {"", "p8,5;", "f8;", "p8,5;r8;f8;"};
+        for (String text : before) {
+            SeaMill mill = mill(text);
+            mill.withdraw(5);
+            mill.withdraw(6);
+            mill.set(10, 1);
+            mill.bring(0, 1, 49);
+            mill.pass(2);
+            if (text.isEmpty()) {
+                mill.pledge(8, 9);
+                mill.bestGate(200);
+            } else {
+                Check.due("fault(0) of " + text, Check.NOT_FOUND, mill.fault(0));
+            }
+            while (mill.count(2) > 8) {
+                mill.undo();
+            }
+            mill.clearText();
+            Check.type(mill, "b1,1,30;");
+            Check.due("play()", 1, mill.play());
+            int[] brought = {1, 1, 30, 0, 30, 0, 0, 0, 0, 0, 0, 0};
+            for (int what = 0; what <= 11; what++) {
+                Check.due("after " + text + ": sackOf(8, " + what + ")", brought[what], mill.sackOf(8, what));
+            }
+            mill.pass(2);
+            int[] ground = {1, 1, 30, 2, 0, 22, 3, 5, 0, 0, 0, Check.NOT_FOUND};
+            for (int what = 0; what <= 11; what++) {
+                Check.due("after " + text + ", ground: sackOf(8, " + what + ")", ground[what], mill.sackOf(8, what));
+            }
+            Check.due("after " + text + ": by the price of its kind", 2500, mill.pledge(8, 5));
+        }
+        String[] heavy = {"b1,1,120;", "b0,0,120;"};
+        int[] grain = {120 - 50, 120 - 100};
+        for (int i = 0; i < heavy.length; i++) {
+            SeaMill mill = mill(heavy[i]);
+            mill.withdraw(5);
+            mill.withdraw(6);
+            mill.play();
+            mill.pass(2);
+            Check.due(heavy[i] + " by the hardness of its kind", grain[i], mill.sackOf(8, 4));
+        }
     }
 
     private static void playOfAFault() {

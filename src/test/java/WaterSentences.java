@@ -531,6 +531,11 @@ final class WaterSentences {
         Check.due("foresee(5), the first that waits", 2, mill.foresee(5));
         Check.due("foresee(6), the last that waits", 3, mill.foresee(6));
         Twins.keeps("foresee(6)", 3, Mills::busy, its -> its.foresee(6));
+        int[] steps = {1, 6, 4, 3, 5};
+        for (int sack = 0; sack <= 4; sack++) {
+            int its = sack;
+            Twins.keeps("by kinds, foresee(" + sack + ")", steps[sack], Mills::byKinds, mills -> mills.foresee(its));
+        }
         mill.set(12, 1);
         Check.due("foresee(5), the lightest first", 3, mill.foresee(5));
         Check.due("foresee(6), the lightest first", 2, mill.foresee(6));
@@ -601,6 +606,7 @@ final class WaterSentences {
         Check.sentence("Promise 26: bestGate", "`steps`: 1 to 200");
         Check.due("bestGate(1), a pound by each opening", 1, best(1, 1, 1));
         Check.due("bestGate(1), two pounds", 2, best(1, 1, 2));
+        Check.due("bestGate(1), more pounds than any opening grinds", 3, best(1, 1, 200));
         Check.due("bestGate(200), 200 pounds by each opening", 1, best(200, 1, 200));
         Check.due("bestGate(199), 200 pounds", 2, best(199, 1, 200));
         Check.due("bestGate(200), 201 pounds", 2, best(200, 1, 200, 1));
@@ -627,6 +633,9 @@ final class WaterSentences {
         Twins.keeps("bestGate(200)", 1, Mills::busy, its -> its.bestGate(200));
         Twins.keeps("bestGate(1), 70 pounds are left", 1, Mills::busy, its -> its.bestGate(1));
         Twins.keeps("bestGate(2), 70 and 20 pounds", 1, Mills::busy, its -> its.bestGate(2));
+        // 17 pounds of sack 0, then 33 of sack 3: each opening grinds 11 a step for each 1 of it
+        Twins.keeps("bestGate(1), by kinds", 2, Mills::byKinds, its -> its.bestGate(1));
+        Twins.keeps("bestGate(2), by kinds", 3, Mills::byKinds, its -> its.bestGate(2));
         Check.sentence("Promise 26: bestGate", "INVALID_ARGUMENT if steps is out of range.");
         for (int wrong : new int[] {0, -1, 201, MIN, MAX}) {
             Twins.keeps("bestGate(" + wrong + ")", Check.INVALID, Mills::busy, its -> its.bestGate(wrong));
