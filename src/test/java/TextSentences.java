@@ -384,6 +384,7 @@ final class TextSentences {
         }
         String[] heavy = {"b1,1,120;", "b0,0,120;"};
         int[] grain = {120 - 50, 120 - 100};
+        int[] dust = {(50 - 5) * 20 / 100, 0};
         for (int i = 0; i < heavy.length; i++) {
             SeaMill mill = mill(heavy[i]);
             mill.withdraw(5);
@@ -391,6 +392,7 @@ final class TextSentences {
             mill.play();
             mill.pass(2);
             Check.due(heavy[i] + " by the hardness of its kind", grain[i], mill.sackOf(8, 4));
+            Check.due(heavy[i] + " by the dust of its kind", dust[i], mill.sackOf(8, 7));
         }
     }
 
