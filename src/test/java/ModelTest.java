@@ -8,6 +8,7 @@ public final class ModelTest {
     private static final String[] QUESTIONS = {"kindOf", "farmerOf", "sackOf", "queueAt", "account", "owed",
         "pledgeAt", "seaIn", "nextHigh", "pond", "foresee", "bestGate", "count", "undo", "type", "clearText",
         "fault"};
+    private static final int[] LEAST = {10, 0, 0, 0, 4, 0, 0, 0, 0, 0, 1, 1, 0};
     private static final int[] GREATEST = {1000, 100, 300, 100, 100, 200, 100, 2000, 50, 100, 60, 100, 3};
     private static final int[] USUAL_CHANGES = {0, 1, 3, 4, 5, 6, 6, 6, 6, 6, 6, 7, 8, 8, 9, 10, 10, 10, 10, 11, 11,
         12, 12, 12, 12, 12, 12, 12};
@@ -19,6 +20,10 @@ public final class ModelTest {
     private static Model model;
     private static int run;
     private static int calls;
+    /** How many kinds, farmers and sacks the arguments are drawn from. */
+    private static int kinds;
+    private static int farmers;
+    private static int sacks;
 
     private ModelTest() {
     }
@@ -31,7 +36,11 @@ public final class ModelTest {
             mill = new SeaMill();
             model = new Model();
             calls = 0;
-            begin();
+            if (run % 4 == 3) {
+                beginWide();
+            } else {
+                begin();
+            }
             while (calls < 340) {
                 anyCall();
             }
@@ -48,6 +57,9 @@ public final class ModelTest {
     }
 
     private static void begin() {
+        kinds = 3;
+        farmers = 3;
+        sacks = 16;
         if (draw(4) > 0) {
             change("set", 6, draw(5), 0);
             change("set", 7, draw(60), 0);
@@ -64,6 +76,45 @@ public final class ModelTest {
             change("bring", draw(3), draw(3), 1 + draw(60));
         }
         change("pass", 50, 0, 0);
+    }
+
+    /** Begins with settings from all of their ranges, and as many kinds, farmers and sacks as there may be. */
+    private static void beginWide() {
+        kinds = 1 + draw(6);
+        farmers = 1 + draw(8);
+        sacks = 25;
+        for (int what = 0; what <= 12; what++) {
+            if (draw(3) > 0) {
+                change("set", what, settingOf(what), 0);
+            }
+        }
+        for (int i = 0; i < kinds; i++) {
+            change("kind", 1 + draw(9), draw(21), draw(2) == 0 ? 1000000 - draw(9) : 1 + draw(100000));
+        }
+        for (int i = 0; i < farmers; i++) {
+            change("farmer", 0, 0, 0);
+        }
+        change("gate", 1 + draw(3), 0, 0);
+        for (int i = draw(25); i > 0; i--) {
+            change("bring", draw(farmers), draw(kinds), 1 + draw(200));
+        }
+        if (draw(2) == 0) {
+            for (int time = 200; time < 9900; time += 200) {
+                change("pass", 200, 0, 0);
+            }
+        }
+    }
+
+    /** A value of a setting, often the least or the greatest one. */
+    private static int settingOf(int what) {
+        switch (draw(6)) {
+            case 0:
+                return LEAST[what];
+            case 1:
+                return GREATEST[what];
+            default:
+                return LEAST[what] + draw(GREATEST[what] - LEAST[what] + 1);
+        }
     }
 
     private static void change(String name, int a, int b, int c) {
@@ -86,7 +137,12 @@ public final class ModelTest {
         int choice = draw(100);
         if (choice < 40) {
             String name = CHANGES[USUAL_CHANGES[draw(USUAL_CHANGES.length)]];
-            change(name, argument(name, 0), argument(name, 1), argument(name, 2));
+            if (name.equals("set") && draw(3) > 0) {
+                int what = draw(13);
+                change(name, what, settingOf(what), 0);
+            } else {
+                change(name, argument(name, 0), argument(name, 1), argument(name, 2));
+            }
         } else if (choice < 43) {
             String name = CHANGES[draw(CHANGES.length)];
             change(name, argument(name, 0), argument(name, 1), argument(name, 2));
@@ -122,11 +178,11 @@ public final class ModelTest {
             case "kind":
                 return place == 0 ? 1 + draw(9) : place == 1 ? draw(21) : 1 + draw(1000000);
             case "bring":
-                return place == 2 ? 1 + draw(100) : draw(3);
+                return place == 2 ? 1 + draw(100) : draw(place == 0 ? farmers : kinds);
             case "earn":
-                return place == 0 ? draw(3) : 1 + (draw(4) == 0 ? draw(1000000000) : draw(100000));
+                return place == 0 ? draw(farmers) : 1 + (draw(4) == 0 ? draw(1000000000) : draw(100000));
             case "pledge":
-                return place == 0 ? draw(14) : 1 + draw(40);
+                return place == 0 ? draw(sacks) : 1 + draw(40);
             case "pass":
                 return draw(12) == 0 ? 1 + draw(200) : 1 + draw(30);
             default:
@@ -137,15 +193,15 @@ public final class ModelTest {
     private static int questionArgument(String name, int place) {
         switch (name) {
             case "withdraw", "fetch", "redeem", "owed", "foresee":
-                return draw(16);
+                return draw(sacks);
             case "kindOf", "farmerOf":
-                return place == 0 ? draw(3) : draw(6);
+                return place == 0 ? draw(name.equals("kindOf") ? kinds : farmers) : draw(6);
             case "sackOf":
-                return place == 0 ? draw(16) : draw(12);
+                return place == 0 ? draw(sacks) : draw(12);
             case "queueAt":
                 return draw(8);
             case "account":
-                return place < 2 ? draw(4) - 1 : 2 + draw(9);
+                return place < 2 ? draw((place == 0 ? farmers : kinds) + 1) - 1 : 2 + draw(9);
             case "pledgeAt":
                 return draw(5);
             case "seaIn":
